@@ -140,10 +140,10 @@ public final class BracketTongue {
         tape = new byte[TAPE_MOST];
         found = new Fault();
         reader = new Reader(found);
-        compiler = new Compiler(reader, found);
-        machine = new Machine();
         program = new Program();
         spare = new Program();
+        compiler = new Compiler(reader, found, spare);
+        machine = new Machine(program);
         pointer = NOTHING;
         places = new long[PLACES];
     }
@@ -725,11 +725,11 @@ public final class BracketTongue {
         }
 
         boolean isList(int node) {
-            return kindOf(node) == PAIR;
+            return node >= 0 && node < size && kinds[node] == PAIR;
         }
 
         boolean isName(int node) {
-            return kindOf(node) == NAME;
+            return node >= 0 && node < size && kinds[node] == NAME;
         }
 
         int partsOf(int node) {
@@ -988,9 +988,10 @@ public final class BracketTongue {
         private int depth;
         private int deepest;
 
-        Compiler(Reader reader, Fault found) {
+        Compiler(Reader reader, Fault found, Program program) {
             this.reader = reader;
             this.found = found;
+            this.program = program;
         }
 
         void compile(Program target) {
@@ -1553,6 +1554,10 @@ public final class BracketTongue {
         long latest;
         int through;
 
+        Machine(Program program) {
+            this.program = program;
+        }
+
         void begin(Program newProgram) {
             program = newProgram;
             heap.begin(newProgram);
@@ -1576,7 +1581,7 @@ public final class BracketTongue {
         }
 
         void work(int mostSteps) {
-            if (program == null || answer == RUN_THROUGH || answer >= RUN_ERROR) {
+            if (answer == RUN_THROUGH || answer >= RUN_ERROR) {
                 return;
             }
             stepsLeft = mostSteps;
@@ -1835,9 +1840,9 @@ public final class BracketTongue {
 
         /** What is called and what it gets take the place of the call that gives way. */
         private void moveDown(int got) {
-            int from = top - got;
-            for (int i = NONE; i < got; i++) {
-                poke(base + i, peek(from + i));
+            int from = top - got - 1;
+            for (int i = 0; i <= got; i++) {
+                poke(base - 1 + i, peek(from + i));
             }
             top = base + got;
         }

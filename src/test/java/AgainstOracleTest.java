@@ -53,6 +53,13 @@ public final class AgainstOracleTest {
             }
             return cut(text.toString());
         }
+        if (way == 1) {
+            return pick(4) == 0 ? spoilt(crowded()) : crowded();
+        }
+        if (way < 9) {
+            String typed = cut(new TypedTexts(random).text());
+            return pick(12) == 0 ? spoilt(typed) : typed;
+        }
         around.clear();
         int globals = 1 + pick(5);
         for (int i = 0; i < globals; i++) {
@@ -74,7 +81,39 @@ public final class AgainstOracleTest {
             form(5);
         }
         String made = cut(text.toString());
-        return way < 3 ? spoilt(made) : made;
+        return way < 10 ? spoilt(made) : made;
+    }
+
+    /** Texts about the limits of nesting, FORMS, lambdas and defined NAMES. */
+    private String crowded() {
+        StringBuilder s = new StringBuilder();
+        int n = pick(40);
+        switch (pick(6)) {
+            case 0:
+                for (int i = 0; i < n; i++) {
+                    s.append(pick(2) == 0 ? "(" : "'");
+                }
+                return s.append("a").append(Check.times(")", pick(32))).toString();
+            case 1:
+                for (int i = 0; i < 740 + pick(20); i++) {
+                    s.append(pick(9) == 0 ? "'1 " : "1(1)");
+                }
+                return cut(s.toString());
+            case 2:
+                for (int i = 0; i < 112 + pick(12); i++) {
+                    s.append(pick(30) == 0 ? "(define x 1)" : "(lambda(x)(car 1)x)");
+                }
+                return cut(s.toString());
+            case 3:
+                for (int i = 0; i < 92 + pick(20); i++) {
+                    s.append("(define d").append(pick(40) == 0 ? 1 : i).append(pick(40) == 0 ? " d101" : " 1").append(")");
+                }
+                return cut(s.toString());
+            case 4:
+                return Check.times("(begin ", n) + "(define x x)" + Check.times(")", n);
+            default:
+                return Check.times("(lambda (a) ", n) + "(a b)" + Check.times(")", n) + " (define b '" + Check.times("'", n) + "1)";
+        }
     }
 
     private String cut(String made) {
