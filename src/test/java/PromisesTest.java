@@ -187,6 +187,18 @@ public final class PromisesTest {
         Check.due("5: open calls are gone", x.count(9), 0);
         Check.due("5: run anew", x.run(100), 0);
         Check.due("5: its value", x.at(1), 362880);
+        x = Check.built("(if #t 5 6) (read)");
+        x.run(0);
+        x.restart();
+        Check.build(x, "(read)");
+        x.run(0);
+        Check.due("5: no form is through", x.at(0), 0);
+        x = Check.built("(if (< (read) 5) 5 6)");
+        x.input(3);
+        x.run(0);
+        x.restart();
+        x.run(0);
+        Check.due("5: nor behind a restart", x.at(0), 0);
     }
 
     private static void input() {

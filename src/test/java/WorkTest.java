@@ -314,6 +314,9 @@ public final class WorkTest {
         BracketTongue x = Check.worked(down + "(f 1000)", 17);
         Check.due("open at the error", x.count(9), 1000);
         Check.due("steps at the error", x.count(10), 1000);
+        x = Check.built(down + "(f 1000)");
+        Check.due("one call less", x.run(999), 1);
+        Check.due("the error comes ahead of a step that would be too many", x.run(1), 17);
         // Asked in this order: 1, 2, 7.
         Check.worked("(define f (lambda (n) (+ 1 (if (= n 1) (5) (f (- n 1)))))) (f 1000)", 11);
         Check.worked("(define f (lambda (n) (+ 1 (if (= n 1) (f) (f (- n 1)))))) (f 1000)", 12);
