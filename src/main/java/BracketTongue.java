@@ -1254,7 +1254,8 @@ public final class BracketTongue {
                 part = reader.nextOf(part);
             }
             if (!isFine) {
-                tell(FAULT_BINDING, node);
+                // Not by tell: from build on, calls would go nine deep.
+                found.tell(FAULT_BINDING, reader.placeOf(node));
             }
         }
 

@@ -5,14 +5,41 @@ import java.util.Arrays;
 final class Check {
     private static int wrong = 0;
     private static int asked = 0;
+    private static int sentences = 0;
+    private static int askedBefore = 0;
+    private static String sentence = "";
 
     private Check() { }
+
+    /** What is asked from here on belongs to this sentence of the document, which is told with a wrong answer. */
+    static void sentence(String number) {
+        endSentence();
+        sentence = "[" + number + "] ";
+        sentences++;
+        askedBefore = asked;
+    }
+
+    private static void endSentence() {
+        if (!sentence.isEmpty() && asked == askedBefore) {
+            wrong++;
+            System.out.println(sentence + "nothing was asked");
+        }
+        sentence = "";
+    }
 
     static void due(String what, long got, long want) {
         asked++;
         if (got != want) {
             wrong++;
-            System.out.println(what + " answered " + got + ", due is " + want);
+            System.out.println(sentence + what + " answered " + got + ", due is " + want);
+        }
+    }
+
+    static void due(String what, String got, String want) {
+        asked++;
+        if (!got.equals(want)) {
+            wrong++;
+            System.out.println(sentence + what + " shows\n  " + got + "\n  due is\n  " + want);
         }
     }
 
@@ -22,10 +49,38 @@ final class Check {
 
     /** Prints the sum and ends the test's process with 1 if an answer was wrong. */
     static void end(String test) {
-        System.out.println(test + ": " + asked + " answers asked, " + wrong + " not as due");
+        endSentence();
+        String of = sentences == 0 ? "" : " of " + sentences + " sentences";
+        System.out.println(test + ": " + asked + " answers asked" + of + ", " + wrong + " not as due");
         if (wrong != 0) {
             System.exit(1);
         }
+    }
+
+    /**
+     * All that an object shows without being changed by the asking, in some 30 calls: a call that is refused
+     * leaves it as it is.
+     */
+    static String seen(BracketTongue x) {
+        StringBuilder all = new StringBuilder("tape " + x.count(0) + " fault " + x.fault(0) + " " + x.fault(1));
+        return all.append(' ').append(worked(x)).toString();
+    }
+
+    /** Likewise, but for the tape and the fault: what a build with a fault leaves as it is. */
+    static String worked(BracketTongue x) {
+        StringBuilder all = new StringBuilder("counts");
+        for (int what = 1; what <= 11; what++) {
+            all.append(' ').append(x.count(what));
+        }
+        all.append(" at ").append(x.at(0)).append(' ').append(x.at(1)).append(" same");
+        for (int place = 0; place < 4; place++) {
+            all.append(' ').append(x.same(place));
+        }
+        all.append(" outputs");
+        for (int i = 0; i < Math.min(10, x.count(7)); i++) {
+            all.append(' ').append(x.output(i));
+        }
+        return all.toString();
     }
 
     static int[] fives(String text) {

@@ -218,7 +218,8 @@ public final class PromisesTest {
         }
         Check.due("6: too many again", x.input(1), -1);
         Check.due("6: run", x.run(20000), 2);
-        for (int i = 0; i < 350; i++) {
+        // Some of them: an object answers as is due for 512 calls.
+        for (int i = 0; i < 350; i += 7) {
             Check.due("6: taken in order", x.output(i), (i + 1) * 7);
         }
         x.input(Integer.MIN_VALUE);
