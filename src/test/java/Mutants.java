@@ -163,6 +163,8 @@ final class Mutants {
         {"W3", "stopIf(Value.kindOf(peek(top - 1)) == FALSE, operand)", "stopIf(Value.kindOf(peek(top - 1)) <= FALSE, operand)"},
         {"W3", "stopIf(Value.kindOf(peek(top - 1)) != FALSE, operand)", "stopIf(Value.kindOf(peek(top - 1)) > FALSE, operand)"},
         {"W3", "Value.truth(kind == FALSE)", "Value.truth(kind == FALSE || kind == EMPTY)"},
+        {"W4", "form(part, false, level);\n                part = reader.nextOf(part);\n            }\n            emit(last",
+            "form(part, false, level);\n                emit(DROP, 0, -1);\n                form(part, false, level);\n                part = reader.nextOf(part);\n            }\n            emit(last"},
         {"W5", "int pair = reader.firstOf(list);\n            for (int i = 0; i < pairs; i++) {\n                checkBound(list, i, reader.firstOf(pair));\n"
             + "                form(reader.secondOf(pair), false, level);\n                pair = reader.nextOf(pair);\n            }\n            bindPairs(list, start);",
             "int pair = reader.firstOf(list);\n            for (int i = 0; i < pairs; i++) {\n                checkBound(list, i, reader.firstOf(pair));\n"
