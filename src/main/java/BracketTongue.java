@@ -447,7 +447,7 @@ public final class BracketTongue {
         }
 
         private int added(int head) {
-            if (size >= fronts.length) {
+            if (size >= fronts.length || head < 0 || head >= HEADS) {
                 return NONE;
             }
             fronts[size] = front;
@@ -552,7 +552,7 @@ public final class BracketTongue {
                 openList(place, false);
             } else if (sign == '\'') {
                 openQuote(place);
-            } else if (sign == ')' && nesting > 0 && !isQuote[nesting]) {
+            } else if (sign == ')' && nesting > 0 && !isInQuote()) {
                 nesting--;
                 closeQuotes();
             } else {
@@ -666,9 +666,13 @@ public final class BracketTongue {
 
         /** A datum has come to its end: so have those that only a ' began for it. */
         private void closeQuotes() {
-            for (int i = 0; i < NESTING_MOST && nesting > 0 && isQuote[nesting]; i++) {
+            for (int i = 0; i < NESTING_MOST && isInQuote(); i++) {
                 nesting--;
             }
+        }
+
+        private boolean isInQuote() {
+            return nesting > 0 && nesting <= NESTING_MOST && isQuote[nesting];
         }
 
         private int newNode(int kind, int content, int place) {
@@ -685,12 +689,15 @@ public final class BracketTongue {
         }
 
         private void addPart(int node) {
-            int list = openLists[nesting];
+            int list = nesting >= 0 && nesting <= NESTING_MOST ? openLists[nesting] : NONE;
+            if (list < 0 || list >= size) {
+                return;
+            }
             int latest = latestParts[nesting];
-            if (latest == NONE) {
-                firsts[list] = node;
-            } else {
+            if (latest >= 0 && latest < size) {
                 nexts[latest] = node;
+            } else {
+                firsts[list] = node;
             }
             latestParts[nesting] = node;
             contents[list]++;
@@ -782,9 +789,10 @@ public final class BracketTongue {
         }
 
         void enterBody() {
-            if (body + 1 < BODIES_MOST) {
-                body++;
-                keptBy[body] = 0;
+            int inner = body + 1;
+            if (inner >= 0 && inner < BODIES_MOST) {
+                body = inner;
+                keptBy[inner] = 0;
             }
         }
 
@@ -805,17 +813,21 @@ public final class BracketTongue {
         }
 
         boolean isOwn(int binding) {
-            return owners[binding] == body;
+            return ownerOf(binding) == body;
+        }
+
+        private int ownerOf(int binding) {
+            return binding >= 0 && binding < size ? owners[binding] : body;
         }
 
         int slotOf(int binding) {
-            return slots[binding];
+            return binding >= 0 && binding < size ? slots[binding] : 0;
         }
 
         /** The place of another body's binding among those that this body keeps. */
         int keep(int binding) {
             // A body can only hand on what it keeps itself, so all bodies between keep it too.
-            for (int inner = owners[binding] + 1; inner <= body; inner++) {
+            for (int inner = ownerOf(binding) + 1; inner <= body && inner < BODIES_MOST; inner++) {
                 if (keptPlace(inner, binding) == NONE && keptBy[inner] < BINDINGS_MOST) {
                     int end = inner * BINDINGS_MOST + keptBy[inner];
                     keeps = Rows.withRoom(keeps, end + 1);
@@ -827,22 +839,25 @@ public final class BracketTongue {
         }
 
         private int keptPlace(int inner, int binding) {
-            for (int i = 0; i < keptBy[inner]; i++) {
-                if (keeps[inner * BINDINGS_MOST + i] == binding) {
-                    return i;
+            int kept = inner >= 0 && inner < BODIES_MOST ? keptBy[inner] : 0;
+            int start = inner * BINDINGS_MOST;
+            for (int place = start; place < start + kept && place < keeps.length; place++) {
+                if (keeps[place] == binding) {
+                    return place - start;
                 }
             }
             return NONE;
         }
 
         int kept() {
-            return keptBy[body];
+            return body >= 0 && body < BODIES_MOST ? keptBy[body] : 0;
         }
 
         /** Where the body around finds the i-th binding kept: 2 * slot, or 2 * place among its kept ones + 1. */
         int sourceOf(int i) {
-            int binding = keeps[body * BINDINGS_MOST + i];
-            return owners[binding] == body - 1 ? 2 * slots[binding] : 2 * keptPlace(body - 1, binding) + 1;
+            int place = body * BINDINGS_MOST + i;
+            int binding = place >= 0 && place < keeps.length ? keeps[place] : NONE;
+            return ownerOf(binding) == body - 1 ? 2 * slotOf(binding) : 2 * keptPlace(body - 1, binding) + 1;
         }
     }
 
@@ -1020,7 +1035,7 @@ public final class BracketTongue {
             for (int i = 0; i < reader.partsOf(Reader.ROW); i++) {
                 if (reader.wordOf(node) == DEFINE && isShaped(node, DEFINE, 0)) {
                     int name = reader.contentOf(reader.secondOf(node));
-                    if (name >= ALL_WORDS && definedAs[name] == NONE) {
+                    if (name >= ALL_WORDS && name < definedAs.length && definedAs[name] == NONE) {
                         definedAs[name] = program.defined;
                         program.defined++;
                     }
@@ -1084,14 +1099,18 @@ public final class BracketTongue {
         }
 
         private boolean hasMeaning(int name) {
-            return scope.find(name) != NONE || definedAs[name] != NONE;
+            return scope.find(name) != NONE || definedNumber(name) != NONE;
+        }
+
+        private int definedNumber(int name) {
+            return name >= 0 && name < definedAs.length ? definedAs[name] : NONE;
         }
 
         /** The operation of three (LOCAL or SET_LOCAL, and the next two) that fits the name's binding. */
         private void variable(int name, int localOperation, int change) {
             int binding = scope.find(name);
             if (binding == NONE) {
-                emit(localOperation + 2, definedAs[name], change);
+                emit(localOperation + 2, definedNumber(name), change);
             } else if (scope.isOwn(binding)) {
                 emit(localOperation, scope.slotOf(binding), change);
             } else {
@@ -1365,11 +1384,11 @@ public final class BracketTongue {
             int name = reader.contentOf(second);
             if (name < ALL_WORDS) {
                 tell(FAULT_BINDING, second);
-            } else if (definedAs[name] >= DEFINED_MOST) {
+            } else if (definedNumber(name) >= DEFINED_MOST) {
                 tell(FAULT_ROOM, second);
             }
             form(reader.nextOf(second), false, level);
-            emit(DEFINED, definedAs[name], 0);
+            emit(DEFINED, definedNumber(name), 0);
         }
 
         private void quoteForm(int node, boolean last, int level) {
@@ -1500,7 +1519,7 @@ public final class BracketTongue {
             if (inputs == 0) {
                 return 0;
             }
-            int value = ring[firstInput];
+            int value = ring[Math.floorMod(firstInput, INPUTS_MOST)];
             firstInput = Math.floorMod(firstInput + 1, INPUTS_MOST);
             inputs--;
             return value;
@@ -1860,7 +1879,7 @@ public final class BracketTongue {
         }
 
         private void giveBack() {
-            if (open <= 0) {
+            if (open <= 0 || open > backPlaces.length) {
                 hold(RUN_THROUGH);
                 return;
             }
