@@ -129,6 +129,9 @@ public final class ReadingTest {
         number("(car (cdr ''a))", 3);
         number("(define x 'y)(begin x)", 3);
         number("; b\n#t 5 (begin 'car 'c)", 3);
+        number("(define x 1) 'quote", 2);
+        number("(begin (car ''a))", 2);
+        number("(begin (car (quote (quote a))))", 2);
         number("(let ((a 1) (b 2)) (if a 'b 'a))", 2);
         BracketTongue x = Check.worked("'(quote a quote)", 0);
         Check.due("go(0)", x.go(0), true);

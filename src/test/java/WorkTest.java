@@ -9,6 +9,7 @@ public final class WorkTest {
         arithmetic();
         pairs();
         sameness();
+        samenessHoweverMade();
         kindsAsked();
         errorsOfCalls();
         errorsOfKinds();
@@ -163,6 +164,42 @@ public final class WorkTest {
         Check.kind("(define f (lambda () (lambda () 1))) (eq? (f) (f))", 2);
     }
 
+    /** All but PAIRS and PROCEDURES are the same by what they are, however they were made. */
+    private static void samenessHoweverMade() {
+        String[][] groups = {
+            {"#t", "'#t", "(= 1 1)", "(< 1 2)", "(pair? '(1))", "(null? '())", "(integer? 1)", "(procedure? car)",
+                "(not #f)", "(eq? 1 1)", "(car '(#t))", "(and 1 #t)"},
+            {"#f", "'#f", "(= 1 2)", "(< 2 1)", "(pair? 1)", "(null? 1)", "(integer? #f)", "(procedure? 1)", "(not 1)",
+                "(eq? 1 2)", "(or #f #f)", "(and #f 1)"},
+            {"'()", "(quote ())", "(cdr '(1))", "(cdr (cons 1 '()))", "(car '(()))"},
+            {"0", "-0", "'0", "(- 1 1)", "(* 0 5)", "(quotient 1 2)", "(remainder 4 2)", "g"},
+            {"1", "(car '(1))", "(- 0 -1)", "(remainder 7 -2)"},
+            {"-2147483648", "(quotient -2147483648 -1)", "(+ 2147483647 1)", "(* -2147483648 -1)"},
+            {"'a", "(quote a)", "(car '(a))", "(car (cdr ''a))"},
+            {"'quote", "(car ''a)"},
+            {"'car"},
+            {"car", "(let ((x car)) x)", "(if #t car cdr)"},
+            {"cdr"},
+            {"(emit 1)", "(set! g 0)", "(set-car! (cons 1 2) 3)", "(set-cdr! (cons 1 2) 3)", "((lambda () (emit 2)))"},
+        };
+        for (int i = 0; i < groups.length; i++) {
+            for (int j = 0; j < groups.length; j++) {
+                sameOrNot(groups[i], groups[j], i == j);
+            }
+        }
+    }
+
+    private static void sameOrNot(String[] ones, String[] others, boolean due) {
+        for (String one : ones) {
+            for (String other : others) {
+                BracketTongue x = Check.worked("(define g 0)(define x " + one + ")(define y " + other + ")(eq? x y)", 0);
+                Check.due("eq? of " + one + " and " + other, x.at(0), due ? 3 : 2);
+                Check.due("x and y are there", x.global(1) && x.mark(0) && x.global(2), true);
+                Check.due("same for " + one + " and " + other, x.same(0), due);
+            }
+        }
+    }
+
     private static void kindsAsked() {
         String[] values = {"1", "#t", "#f", "'()", "'a", "'(1)", "(lambda () 1)", "car", "(emit 1)"};
         for (int i = 0; i < values.length; i++) {
@@ -260,6 +297,9 @@ public final class WorkTest {
         cellsOf("((let ((a 1)) (lambda (b) (lambda (c) (+ a (+ b c))))) 5)", 5);
         cellsOf("(let ((x 1)) (cons x 1) (if #f (lambda () x) 2))", 1);
         cellsOf("(car 1)", 0);
+        cellsOf("(let ((a 1) (b 2)) (cons (lambda () a) (lambda () b)))", 5);
+        cellsOf("(let ((a 1) (b 2)) (lambda () a) (lambda () b) (lambda () 1))", 5);
+        cellsOf("(let ((a 1) (b 2)) (lambda () (lambda () a) (lambda () b)) (lambda () (lambda () b)))", 5);
     }
 
     private static void cellsOf(String text, int cells) {
